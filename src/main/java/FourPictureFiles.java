@@ -12,7 +12,7 @@ public final class FourPictureFiles {
     private static final int FORMATS = 4;
 
     private final Picture picture = new Picture();
-    // Reading fills the draft, so that a file with a fault leaves the picture as it was.
+    // Reading fills the draft, so that a file with a fault leaves the picture as it was; turning uses it too.
     private final Picture draft = new Picture();
     private final FileRow file = new FileRow();
     private final Source source = new Source(file);

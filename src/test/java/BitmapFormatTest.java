@@ -16,6 +16,7 @@ public final class BitmapFormatTest {
         beginningFaults();
         colourFaults();
         packedFaults();
+        readTwice();
         Bench.end();
     }
 
@@ -193,11 +194,23 @@ public final class BitmapFormatTest {
 
     private static void colourFaults() {
         Bench.dueBroken("no colours", Bench.file(head(54, 1, 1, 8, 0, 0), new int[300]));
+        Bench.dueBroken("no colours, packed", Bench.file(head(54, 1, 1, 8, 1, 0), 0, 1));
+        Bench.dueBroken("no colours, then nothing", Bench.without(head(54, 1, 1, 8, 0, 0), 4));
         Bench.dueBroken("65 colours", Bench.file(head(54, 1, 1, 8, 0, 65), new int[300]));
         Bench.dueBroken("negative colours", Bench.file(head(54, 1, 1, 8, 0, -1), new int[300]));
         Bench.dueBroken("colours with depth 24", Bench.file(head(58, 1, 1, 24, 0, 1), new int[300]));
         Bench.dueBroken("packing 2", Bench.file(head(66, 1, 1, 8, 2, 3), COLOURS, 0, 1));
         Bench.dueBroken("packing 1 with depth 24", Bench.file(head(54, 1, 1, 24, 1, 0), 0, 1));
+    }
+
+    private static void readTwice() {
+        int[] file = packed(2, 2, 1, 1, 0, 0, 1, 2, 0, 1);
+        FourPictureFiles x = new FourPictureFiles();
+        Bench.feed(x, file);
+        Bench.due("the first time", x.decode(), 2);
+        x.put(0, 0, 0);
+        Bench.due("the second time", x.decode(), 2);
+        Bench.duePicture("the second time", x, 2, 2, C, A, B, A);
     }
 
     private static void packedFaults() {

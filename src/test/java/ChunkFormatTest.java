@@ -14,6 +14,7 @@ public final class ChunkFormatTest {
         readDifferences();
         readWholePixels();
         readFaults();
+        readTwice();
         Bench.end();
     }
 
@@ -140,6 +141,16 @@ public final class ChunkFormatTest {
         Bench.dueRead("255", file(1, 1, 3, 255, 255, 255, 255, 255), 0, 1, 1, -1);
         int[] colourSpace = Bench.with(file(1, 1, 3, 192), 13, 1);
         Bench.dueRead("the other byte 1", colourSpace, 0, 1, 1, BLACK);
+    }
+
+    private static void readTwice() {
+        FourPictureFiles x = new FourPictureFiles();
+        Bench.feed(x, file(2, 1, 3, 90, 122));
+        Bench.due("the first file", x.decode(), 0);
+        x.cut(0);
+        Bench.feed(x, file(3, 1, 4, 192, 50, 53));
+        Bench.due("the second file", x.decode(), 0);
+        Bench.duePicture("table and last pixel are new ones", x, 3, 1, BLACK, 0, 0);
     }
 
     private static void readFaults() {

@@ -107,7 +107,10 @@ public final class PacketFormatTest {
         int[] all = new int[64];
         java.util.Arrays.fill(all, Bench.grey(6));
         Bench.dueRead("64 in one", Bench.file(head(11, 8, 8, 8, 32), 191, 6), 3, 8, 8, all);
-        Bench.dueRead("the same twice in one object's life", Bench.file(head(11, 1, 1, 8, 32), 0, 6), 3, 1, 1, Bench.grey(6));
+        readTwice(mixed);
+    }
+
+    private static void readTwice(int[] mixed) {
         FourPictureFiles x = new FourPictureFiles();
         Bench.feed(x, Bench.file(head(11, 8, 8, 8, 32), 191));
         Bench.due("left open", x.decode(), FourPictureFiles.SHORT);
@@ -115,6 +118,13 @@ public final class PacketFormatTest {
         Bench.feed(x, mixed);
         Bench.due("behind one left open", x.decode(), 3);
         Bench.duePicture("behind one left open", x, 3, 2, A, A, A, B, C, D);
+        x.cut(0);
+        Bench.feed(x, Bench.file(head(11, 2, 1, 8, 32), 129, 6));
+        Bench.due("the same twice", x.decode(), 3);
+        x.cut(0);
+        Bench.feed(x, Bench.file(head(3, 2, 1, 8, 32), 7, 8));
+        Bench.due("plain behind packets", x.decode(), 3);
+        Bench.duePicture("plain behind packets", x, 2, 1, Bench.grey(7), Bench.grey(8));
     }
 
     private static void headerFaults() {

@@ -10,6 +10,7 @@ public final class PictureTest {
         exchanges();
         turn();
         greyAndOpaque();
+        changesOfAllSizes();
         refusedChange();
         Bench.end();
     }
@@ -107,6 +108,43 @@ public final class PictureTest {
         Bench.due("change(4)", x.change(4), true);
         Bench.duePicture("opaque", x, 4, 1, Bench.grey(255), Bench.grey(76), Bench.grey(149), Bench.grey(37));
         Bench.due("length() after change", x.length(), 1);
+    }
+
+    private static int numbered(int x, int y) {
+        return Bench.rgba(40 + 9 * x, 7 * y, 200 - x - 8 * y, 3 * x + y);
+    }
+
+    private static void changesOfAllSizes() {
+        for (int size = 0; size < 64; size++) {
+            int width = size % 8 + 1;
+            int height = size / 8 + 1;
+            for (int how = 0; how < 5; how++) {
+                FourPictureFiles x = Bench.picture(width, height);
+                for (int i = 0; i < width * height; i++) {
+                    x.put(i % width, i / width, numbered(i % width, i / width));
+                }
+                Bench.due("change(" + how + ")", x.change(how), true);
+                Bench.due("width", x.width(), how == 2 ? height : width);
+                Bench.due("height", x.height(), how == 2 ? width : height);
+                for (int i = 0; i < width * height; i++) {
+                    dueChanged(x, i % width, i / width, how);
+                }
+            }
+        }
+    }
+
+    /** Looks where the pixel that was at (x, y) is now. */
+    private static void dueChanged(FourPictureFiles file, int x, int y, int how) {
+        int pixel = numbered(x, y);
+        int grey = (77 * (pixel >>> 24) + 150 * (pixel >>> 16 & 255) + 29 * (pixel >>> 8 & 255)) / 256;
+        String what = "after change(" + how + ")";
+        switch (how) {
+            case 0 -> Bench.due(what, file.pixel(file.width() - 1 - x, y), pixel);
+            case 1 -> Bench.due(what, file.pixel(x, file.height() - 1 - y), pixel);
+            case 2 -> Bench.due(what, file.pixel(y, x), pixel);
+            case 3 -> Bench.due(what, file.pixel(x, y), Bench.rgba(grey, grey, grey, pixel & 255));
+            default -> Bench.due(what, file.pixel(x, y), pixel | 255);
+        }
     }
 
     private static void refusedChange() {
