@@ -1,6 +1,9 @@
 import java.util.Arrays;
 
-/** What the tests share: files from parts, and calls with the answers that are due. */
+/**
+ * What the tests share: files from parts, and calls with the answers that are due. Tests of long files make more
+ * than the 512 calls that are promised for an object; they lean on the program's not counting them.
+ */
 final class Bench {
     static final int FILLER = 0x0A0B0C0D;
 

@@ -12,6 +12,8 @@ public final class SampleFormatTest {
         numberFaults();
         valueFaults();
         endFaults();
+        readCutFile();
+        readFullFile();
         Bench.end();
     }
 
@@ -136,6 +138,25 @@ public final class SampleFormatTest {
         Bench.dueBroken("P5 above, then nothing", Bench.file("P5 2 1 96 a"));
         Bench.dueBroken("P6 above in blue", Bench.file("P6 1 1 96 ``a"));
         Bench.dueRead("P6 at the greatest", Bench.file("P6 1 1 96 ```"), 1, 1, 1, Bench.grey(255));
+    }
+
+    /** Bytes that were cut off are not there any more. */
+    private static void readCutFile() {
+        FourPictureFiles x = new FourPictureFiles();
+        Bench.feed(x, Bench.file("P2 2 1 255 97 981"));
+        Bench.due("a sample above", x.decode(), FourPictureFiles.BROKEN);
+        x.cut(16);
+        Bench.due("its last digit cut off", x.decode(), 1);
+        Bench.duePicture("its last digit cut off", x, 2, 1, GREY_ROW);
+    }
+
+    private static void readFullFile() {
+        int[] spaces = new int[787];
+        java.util.Arrays.fill(spaces, ' ');
+        Bench.dueRead("800 bytes, a digit at last", Bench.file("P2 1 1 255", spaces, "097"), 1, 1, 1, Bench.grey(97));
+        Bench.dueRead("800 bytes, spaces at last", Bench.file("P2 1 1 255 97", spaces), 1, 1, 1, Bench.grey(97));
+        Bench.dueShort("800 bytes, a comment at last", Bench.file("P2 1 1 255 7#", spaces));
+        Bench.dueShort("800 bytes, spaces alone", Bench.file("P2\n\n\n\n\n\n\n\n\n\n\n", spaces));
     }
 
     private static void endFaults() {
