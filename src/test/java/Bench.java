@@ -17,7 +17,7 @@ final class Bench {
     private static final int MOST_PRINTED = 60;
     private static final int MOST_FED = 400;
 
-    /** The longest file that encode writes; it is made in a few calls, and others that are too long to be fed from it. */
+    /** The longest file that encode writes; it takes few calls, and so files too long to be fed are made from it. */
     private static final int[] LONGEST = longest();
 
     private static String current = "";
@@ -265,7 +265,8 @@ final class Bench {
 
     /** Reads the file, which must give this picture and leave the file alone. */
     static void dueRead(String what, int[] file, int format, int width, int height, int... pixels) {
-        dueState(what, given(file).and(Subject::sniff, format).and(Subject::decode, format), width, height, pixels, file);
+        dueState(what, given(file).and(Subject::sniff, format).and(Subject::decode, format), width, height, pixels,
+                file);
     }
 
     /** Reads the file, which must have this fault and change nothing. */

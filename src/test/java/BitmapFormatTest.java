@@ -81,8 +81,8 @@ public final class BitmapFormatTest {
     @Holds("LITTLE 4 the height, as an int: above 0 rows stand from the lowest up, below 0 from the top down, and it is "
             + "less 0 the height;")
     static void height() {
-        dueBrokenNumber(22, 4, 0, 9, 10, -9, -10, 255, 256, 257, -256, -257, 1 + 65536, 1 + (1 << 24), Integer.MIN_VALUE,
-                Integer.MIN_VALUE + 1, Integer.MAX_VALUE, Integer.MIN_VALUE + 8);
+        dueBrokenNumber(22, 4, 0, 9, 10, -9, -10, 255, 256, 257, -256, -257, 1 + 65536, 1 + (1 << 24),
+                Integer.MIN_VALUE, Integer.MIN_VALUE + 1, Integer.MAX_VALUE, Integer.MIN_VALUE + 8);
         for (int height = 1; height <= 8; height++) {
             int[] rows = new int[4 * height];
             int[] pixels = new int[height];
@@ -146,7 +146,8 @@ public final class BitmapFormatTest {
     @Holds("LITTLE 4 the number of COLOURS, 1 .. 64 with depth 8, 0 with depth 24;")
     static void numberOfColours() {
         dueBrokenNumber(46, 4, 1, 2, 64, 256, 65536, 1 << 24, -1);
-        int[] wrong = {0, 65, 66, 256, 257, 1 + 65536, 1 + (1 << 24), -1, -64, Integer.MIN_VALUE, Integer.MIN_VALUE + 1};
+        int[] wrong = {0, 65, 66, 256, 257, 1 + 65536, 1 + (1 << 24), -1, -64, Integer.MIN_VALUE,
+                Integer.MIN_VALUE + 1};
         for (int colours : wrong) {
             for (int packing = 0; packing < 2; packing++) {
                 int[] file = Bench.file(head(318, 1, 1, 8, packing, colours), new int[260], new int[16]);
@@ -199,7 +200,8 @@ public final class BitmapFormatTest {
             int behind = 54 + 4 * n;
             int[] early = Bench.file(head(behind - 1, 1, 1, 8, 0, n), all, 0, 0, 0, 0);
             Bench.dueBroken("a byte before the end of " + n + " colours", early);
-            Bench.dueBrokenAtLast("a byte before the end of " + n + " colours, then nothing", Arrays.copyOf(early, behind));
+            Bench.dueBrokenAtLast("a byte before the end of " + n + " colours, then nothing",
+                    Arrays.copyOf(early, behind));
             dueRead("behind " + n + " colours", Bench.with(early, 10, Bench.little(behind)), 1, 1, A);
             dueRead("a byte behind " + n + " colours",
                     Bench.file(head(behind + 1, 1, 1, 8, 0, n), all, 99, 0, 0, 0, 0), 1, 1, A);
@@ -207,7 +209,8 @@ public final class BitmapFormatTest {
         int[] none = {1, 2, 3, 0};
         dueRead("796, and all is there", Bench.longFile(head(796, 1, 1, 24, 0, 0), 800, none), 1, 1, A);
         for (int beginning = 797; beginning <= 800; beginning++) {
-            Bench.dueShort(beginning + ", and the file ends", Bench.longFile(head(beginning, 1, 1, 24, 0, 0), 800, none));
+            Bench.dueShort(beginning + ", and the file ends",
+                    Bench.longFile(head(beginning, 1, 1, 24, 0, 0), 800, none));
         }
         Bench.dueBroken("801, and the file ends", Bench.longFile(head(801, 1, 1, 24, 0, 0), 800, none));
         Bench.dueShort("800 in a short file", head(800, 1, 1, 24, 0, 0));
@@ -293,7 +296,8 @@ public final class BitmapFormatTest {
         int[] other = Bench.with(packed(2, 1, 1, 1, 0, 1), 54, 7, 8, 9);
         dueRead("colour 0 is another one", other, 2, 1, B, C);
         Story twice = Bench.fed(packed(2, 2, 1, 1, 0, 0, 1, 2, 0, 1)).and(Subject::decode, 2).and(Subject::decode, 2);
-        Bench.dueState("at first for each reading", twice, 2, 2, Bench.row(C, A, B, A), packed(2, 2, 1, 1, 0, 0, 1, 2, 0, 1));
+        Bench.dueState("at first for each reading", twice, 2, 2, Bench.row(C, A, B, A),
+                packed(2, 2, 1, 1, 0, 0, 1, 2, 0, 1));
     }
 
     @Holds("two bytes n, c: n above 0: the next n pixels of the row get colour c;")
@@ -325,9 +329,11 @@ public final class BitmapFormatTest {
         dueRead("behind an empty row", packed(2, 2, 0, 0, 1, 2, 0, 1), 2, 2, C, A, A, A);
         for (int height = 1; height <= 8; height++) {
             int[] rows = new int[2 * height];
-            dueRead("above the top of " + height, packed(1, height, Bench.file(rows, 0, 1)), 1, height, Bench.filled(height, A));
+            dueRead("above the top of " + height, packed(1, height, Bench.file(rows, 0, 1)), 1, height,
+                    Bench.filled(height, A));
             Bench.dueBroken("two above the top of " + height, packed(1, height, Bench.file(rows, 0, 0, 0, 1)));
-            Bench.dueBrokenAtLast("two above the top of " + height + ", then nothing", packed(1, height, Bench.file(rows, 0, 0)));
+            Bench.dueBrokenAtLast("two above the top of " + height + ", then nothing",
+                    packed(1, height, Bench.file(rows, 0, 0)));
             int[] toTop = new int[2 * height - 2];
             dueRead("at the top of " + height, packed(1, height, Bench.file(toTop, 1, 1, 0, 1)), 1, height,
                     Bench.with(Bench.filled(height, A), 0, B));
@@ -403,7 +409,8 @@ public final class BitmapFormatTest {
                     Bench.with(Bench.filled(width, A), width - 1, B));
             if (width > 2) {
                 int[] bytes = Bench.filled(width + 1, 1);
-                Bench.dueBroken("bytes wider than " + width, packed(width, 1, Bench.file(0, width + 1, bytes, 0, 0, 1)));
+                Bench.dueBroken("bytes wider than " + width,
+                        packed(width, 1, Bench.file(0, width + 1, bytes, 0, 0, 1)));
                 Bench.dueBrokenAtLast("bytes wider than " + width + ", then nothing",
                         packed(width, 1, Bench.file(0, width + 1, bytes)));
             }
@@ -552,8 +559,9 @@ public final class BitmapFormatTest {
 
     @Holds("For how = 0 depth 24.")
     static void writtenWhole() {
-        Bench.dueWritten("two rows", Bench.drawn(3, 2, A, B, C, B, B, A), 2, 0, Bench.file(writtenHead(78, 3, 2, 24, 0, 0),
-                4, 5, 6, 4, 5, 6, 1, 2, 3, 0, 0, 0, 1, 2, 3, 4, 5, 6, 7, 8, 9, 0, 0, 0));
+        Bench.dueWritten("two rows", Bench.drawn(3, 2, A, B, C, B, B, A), 2, 0,
+                Bench.file(writtenHead(78, 3, 2, 24, 0, 0), 4, 5, 6, 4, 5, 6, 1, 2, 3, 0, 0, 0,
+                        1, 2, 3, 4, 5, 6, 7, 8, 9, 0, 0, 0));
         Bench.dueWritten("two columns", Bench.drawn(2, 1, A, B), 2, 0,
                 Bench.file(writtenHead(62, 2, 1, 24, 0, 0), 1, 2, 3, 4, 5, 6, 0, 0));
         Bench.dueWritten("four columns", Bench.drawn(4, 1, A, B, C, A), 2, 0,
@@ -561,7 +569,8 @@ public final class BitmapFormatTest {
         Bench.dueWritten("five columns", Bench.drawn(5, 1, A, B, C, A, B), 2, 0,
                 Bench.file(writtenHead(70, 5, 1, 24, 0, 0), 1, 2, 3, 4, 5, 6, 7, 8, 9, 1, 2, 3, 4, 5, 6, 0));
         Story packedBefore = Bench.drawn(1, 1, B).and(x -> x.encode(2, 1), 62);
-        Bench.dueWritten("behind a packed one", packedBefore, 2, 0, Bench.file(writtenHead(58, 1, 1, 24, 0, 0), 4, 5, 6, 0));
+        Bench.dueWritten("behind a packed one", packedBefore, 2, 0,
+                Bench.file(writtenHead(58, 1, 1, 24, 0, 0), 4, 5, 6, 0));
     }
 
     @Holds("For how = 1 depth 8, packing 1, the colours of the picture in the order in which they come in picture order;")

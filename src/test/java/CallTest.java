@@ -15,7 +15,8 @@ public final class CallTest {
         chunks(1, 1, 254, 3, 2, 1),
         Bench.file("P2 1 1 255 7"), Bench.file("P3 1 1 255 3 2 1"), Bench.file("P5 1 1 255 ", 7),
         Bench.file("P6 1 1 255 ", 3, 2, 1),
-        Bench.file(bitmapHead(1, 1, 24, 0, 0), 1, 2, 3, 0), Bench.file(bitmapHead(1, 1, 8, 0, 1), 1, 2, 3, 0, 0, 0, 0, 0),
+        Bench.file(bitmapHead(1, 1, 24, 0, 0), 1, 2, 3, 0),
+        Bench.file(bitmapHead(1, 1, 8, 0, 1), 1, 2, 3, 0, 0, 0, 0, 0),
         Bench.file(bitmapHead(1, 1, 8, 1, 1), 1, 2, 3, 0, 1, 0, 0, 1),
         packets(2, 24, 32, 1, 2, 3), packets(2, 32, 40, 1, 2, 3, 255), packets(3, 8, 32, 7),
         packets(10, 24, 32, 0, 1, 2, 3), packets(10, 32, 40, 128, 1, 2, 3, 255), packets(11, 8, 32, 128, 7)
@@ -33,7 +34,8 @@ public final class CallTest {
 
     private static int[] bitmapHead(int width, int height, int depth, int packing, int colours) {
         return Bench.file("BM", new int[8], Bench.little(54 + 4 * colours), Bench.little(40), Bench.little(width),
-                Bench.little(height), 1, 0, depth, 0, Bench.little(packing), new int[12], Bench.little(colours), new int[4]);
+                Bench.little(height), 1, 0, depth, 0, Bench.little(packing), new int[12], Bench.little(colours),
+                new int[4]);
     }
 
     private static int[] packets(int kind, int depth, int flags, int... bytes) {
@@ -72,9 +74,11 @@ public final class CallTest {
             Bench.dueShortBeginnings("file " + k, SMALL[k], least[k]);
         }
         int[] chunks = chunks(1, 1, 193);
-        Bench.dueFault("the third byte of the width is missing", Arrays.copyOf(Bench.with(chunks, 4, 9, 9, 9), 7), SHORT);
+        Bench.dueFault("the third byte of the width is missing", Arrays.copyOf(Bench.with(chunks, 4, 9, 9, 9), 7),
+                SHORT);
         Bench.dueFault("a wrong width, and no height", Bench.with(Arrays.copyOf(chunks, 8), 7, 9), BROKEN);
-        Bench.dueFault("a wrong byte behind the height, and no other", Bench.with(Arrays.copyOf(chunks, 13), 12, 9), BROKEN);
+        Bench.dueFault("a wrong byte behind the height, and no other", Bench.with(Arrays.copyOf(chunks, 13), 12, 9),
+                BROKEN);
         Bench.dueFault("a run too long, and no end", Arrays.copyOf(chunks, 15), BROKEN);
         Bench.dueFault("no run", Arrays.copyOf(chunks, 14), SHORT);
         Bench.dueFault("a wrong width, and no digits behind", Bench.file("P2 9"), BROKEN);
@@ -84,7 +88,8 @@ public final class CallTest {
         int[] bitmap = bitmapHead(1, 1, 24, 0, 0);
         Bench.dueFault("a wrong beginning is looked at late", Arrays.copyOf(Bench.with(bitmap, 10, 0), 53), SHORT);
         Bench.dueFault("a wrong beginning", Bench.with(bitmap, 10, 0), BROKEN);
-        Bench.dueFault("a wrong beginning, and an earlier fault", Arrays.copyOf(Bench.with(bitmap, 10, 0, 0, 0, 0, 39), 18), BROKEN);
+        Bench.dueFault("a wrong beginning, and an earlier fault",
+                Arrays.copyOf(Bench.with(bitmap, 10, 0, 0, 0, 0, 39), 18), BROKEN);
         Bench.dueFault("a wrong byte 17, and no pixels", Arrays.copyOf(packets(2, 24, 8), 18), BROKEN);
         Bench.dueFault("a right byte 17, and no pixels", Arrays.copyOf(packets(2, 24, 0), 18), SHORT);
     }
@@ -121,8 +126,8 @@ public final class CallTest {
                 int[] all = SMALL[k];
                 for (int place : free[k]) {
                     all = Bench.with(all, place, value);
-                    Bench.dueRead("byte " + place + " is " + value, Bench.with(SMALL[k], place, value), FORMATS[k], 1, 1,
-                            PIXELS[k]);
+                    Bench.dueRead("byte " + place + " is " + value, Bench.with(SMALL[k], place, value),
+                            FORMATS[k], 1, 1, PIXELS[k]);
                 }
                 Bench.dueRead("all are " + value, all, FORMATS[k], 1, 1, PIXELS[k]);
             }

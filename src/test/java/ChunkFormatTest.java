@@ -38,7 +38,8 @@ public final class ChunkFormatTest {
     /** A row of these pixels gives these chunks, for how = 0 and 1. */
     private static void dueChunks(String what, int[] pixels, int channels, int... chunks) {
         for (int how = 0; how < 2; how++) {
-            Bench.dueWritten(what, Bench.drawn(pixels.length, 1, pixels), 0, how, file(pixels.length, 1, channels, chunks));
+            Bench.dueWritten(what, Bench.drawn(pixels.length, 1, pixels), 0, how,
+                    file(pixels.length, 1, channels, chunks));
         }
     }
 
@@ -50,7 +51,8 @@ public final class ChunkFormatTest {
             Bench.dueBroken("width " + side, file(side, 1, 3, 192));
             Bench.dueBroken("height " + side, file(1, side, 3, 192));
             Bench.dueBrokenAtLast("width " + side + ", then nothing", Bench.file("qoif", Bench.big(side)));
-            Bench.dueBrokenAtLast("height " + side + ", then nothing", Bench.file("qoif", Bench.big(8), Bench.big(side)));
+            Bench.dueBrokenAtLast("height " + side + ", then nothing",
+                    Bench.file("qoif", Bench.big(8), Bench.big(side)));
         }
         for (int side = 1; side <= 8; side++) {
             Bench.dueRead("width " + side, file(side, 1, 3, 191 + side), 0, side, 1, Bench.filled(side, BLACK));
@@ -223,7 +225,8 @@ public final class ChunkFormatTest {
             for (int c = 64; c < 128; c++) {
                 int pixel = Bench.rgba(mod(last[0] + c / 16 % 4 - 2), mod(last[1] + c / 4 % 4 - 2),
                         mod(last[2] + c % 4 - 2), last[3]);
-                duePixels("difference " + c, Bench.file(255, last, c), Bench.rgba(last[0], last[1], last[2], last[3]), pixel);
+                duePixels("difference " + c, Bench.file(255, last, c), Bench.rgba(last[0], last[1], last[2], last[3]),
+                        pixel);
             }
         }
         duePixels("64 is -2", Bench.row(64), Bench.grey(254));
@@ -240,8 +243,8 @@ public final class ChunkFormatTest {
             for (int c = 128; c < 192; c++) {
                 for (int d : bytes) {
                     int g = c - 160;
-                    int pixel = Bench.rgba(mod(last[0] + g + d / 16 - 8), mod(last[1] + g), mod(last[2] + g + d % 16 - 8),
-                            last[3]);
+                    int pixel = Bench.rgba(mod(last[0] + g + d / 16 - 8), mod(last[1] + g),
+                            mod(last[2] + g + d % 16 - 8), last[3]);
                     duePixels("difference " + c + ", " + d, Bench.file(255, last, c, d),
                             Bench.rgba(last[0], last[1], last[2], last[3]), pixel);
                 }
@@ -340,7 +343,8 @@ public final class ChunkFormatTest {
 
     @Holds("Any other pixel: if it is at its place of the table, a chunk 0 .. 63.")
     static void writtenFromTable() {
-        dueChunks("a run puts nothing into the table", Bench.row(BLACK, RED, BLACK, RED, BLACK), 3, 192, 90, 122, 50, 53);
+        dueChunks("a run puts nothing into the table", Bench.row(BLACK, RED, BLACK, RED, BLACK), 3,
+                192, 90, 122, 50, 53);
         dueChunks("all zero at first", Bench.row(0, 0, BLACK, 0), 4, 0, 192, 255, 0, 0, 0, 255, 0);
         dueChunks("the table before the differences", Bench.row(Bench.grey(1), Bench.grey(2), Bench.grey(1)), 3,
                 127, 127, place(1, 1, 1, 255));
@@ -361,7 +365,8 @@ public final class ChunkFormatTest {
         dueChunks("all zero no more", Bench.row(64, 0, 64), 4, 255, 0, 0, 0, 64, 255, 0, 0, 0, 0, 255, 0, 0, 0, 64);
         dueChunks("of 64 .. 127", Bench.row(RED, 0, RED), 4, 90, 0, 50);
         dueChunks("of 128 .. 191", Bench.row(Bench.grey(9), 0, Bench.grey(9)), 4, 169, 136, 0, place(9, 9, 9, 255));
-        dueChunks("of 254", Bench.row(Bench.grey(99), 0, Bench.grey(99)), 4, 254, 99, 99, 99, 0, place(99, 99, 99, 255));
+        dueChunks("of 254", Bench.row(Bench.grey(99), 0, Bench.grey(99)), 4, 254, 99, 99, 99, 0,
+                place(99, 99, 99, 255));
         dueChunks("of 255", Bench.row(0x05050505, 0, 0x05050505), 4, 255, 5, 5, 5, 5, 0, place(5, 5, 5, 5));
     }
 

@@ -14,7 +14,8 @@ public final class FileTest {
     static void rowOfBytes() {
         for (int length = 798; length <= 800; length++) {
             int[] file = Arrays.copyOf(FULL, length);
-            Bench.dueState(length + " bytes", Bench.fed(file), State.of(8, 8, Bench.filled(64, Bench.rgb(100, 150, 200)), file));
+            Bench.dueState(length + " bytes", Bench.fed(file),
+                    State.of(8, 8, Bench.filled(64, Bench.rgb(100, 150, 200)), file));
         }
         Bench.dueRefused("a byte behind 800", Bench.fed(FULL), x -> x.feed(0));
         Bench.dueState("all bytes", Bench.fed(everyByte()), 1, 1, Bench.row(255), everyByte());
@@ -48,7 +49,8 @@ public final class FileTest {
             Bench.dueRefused("feed(" + b + ") to 800 bytes", Bench.fed(FULL), x -> x.feed(b));
             int[] file = Bench.with(FULL, 799, b);
             Story story = Bench.fed(Bench.without(FULL, 1)).and(x -> x.feed(b));
-            Bench.dueState("feed(" + b + ") to 799 bytes", story, 8, 8, Bench.filled(64, Bench.rgb(100, 150, 200)), file);
+            Bench.dueState("feed(" + b + ") to 799 bytes", story, 8, 8, Bench.filled(64, Bench.rgb(100, 150, 200)),
+                    file);
         }
         Bench.dueRefused("feed(256) to 800 bytes", Bench.fed(FULL), x -> x.feed(256));
         Story again = Bench.fed(FULL).and(x -> !x.feed(1)).and(x -> x.cut(799)).and(x -> x.feed(77));
@@ -125,7 +127,8 @@ public final class FileTest {
         Bench.dueUnchanged("length() of a byte", Bench.fed(0), Subject::length, 1);
         Bench.dueUnchanged("length() of 799", Bench.fed(Bench.without(FULL, 1)), Subject::length, 799);
         Bench.dueUnchanged("length() of 800", Bench.fed(FULL), Subject::length, 800);
-        Bench.dueUnchanged("length() behind a refused feed", Bench.fed(FULL).and(x -> !x.feed(1)), Subject::length, 800);
+        Bench.dueUnchanged("length() behind a refused feed", Bench.fed(FULL).and(x -> !x.feed(1)), Subject::length,
+                800);
         Bench.dueUnchanged("length() behind cut(0)", Bench.fed(FULL).and(x -> x.cut(0)), Subject::length, 0);
         Bench.dueUnchanged("length() behind encode", Bench.fed(FULL).and(x -> x.encode(0, 0), 28), Subject::length, 28);
     }
@@ -149,7 +152,8 @@ public final class FileTest {
     @Holds("LITTLE n is n bytes that make a number, the first one lowest; BIG n likewise, the first one highest.")
     static void numbersOfBytes() {
         int[] tail = Bench.file(1, 0, 24, 0, new int[24]);
-        int[] little = Bench.file("BM", new int[8], Bench.little(54), Bench.little(40), Bench.little(1), Bench.little(1), tail);
+        int[] little = Bench.file("BM", new int[8], Bench.little(54), Bench.little(40), Bench.little(1),
+                Bench.little(1), tail);
         Bench.dueRead("LITTLE 4", Bench.file(little, 3, 2, 1, 0), 2, 1, 1, Bench.rgb(1, 2, 3));
         for (int k = 0; k < 4; k++) {
             Bench.dueBroken("40 at byte " + k, Bench.with(little, 14, Bench.with(new int[4], k, k == 0 ? 41 : 40)));

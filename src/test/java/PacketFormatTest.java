@@ -63,7 +63,8 @@ public final class PacketFormatTest {
         }
         int[] noDepths = {0, 7, 9, 15, 16, 23, 25, 31, 33, 255};
         for (int depth : noDepths) {
-            Bench.dueFault("byte 16 is " + depth, Bench.file(head(2, 1, 1, depth, 0), 1, 2, 3), FourPictureFiles.UNKNOWN);
+            Bench.dueFault("byte 16 is " + depth, Bench.file(head(2, 1, 1, depth, 0), 1, 2, 3),
+                    FourPictureFiles.UNKNOWN);
             Bench.dueFault("byte 16 is " + depth, Bench.file(head(11, 1, 1, depth, 0), 0, 1), FourPictureFiles.UNKNOWN);
         }
         Bench.dueFault("2 with 8", Bench.file(head(2, 1, 1, 8, 0), 1, 2, 3), FourPictureFiles.UNKNOWN);
@@ -189,7 +190,8 @@ public final class PacketFormatTest {
             open.tell(x);
             Bench.fed(mixed).tell(x);
         };
-        Bench.dueState("behind a packet left open", behind.and(Subject::decode, 3), 3, 2, Bench.row(A, A, A, B, C, D), mixed);
+        Bench.dueState("behind a packet left open", behind.and(Subject::decode, 3), 3, 2, Bench.row(A, A, A, B, C, D),
+                mixed);
         int[] plain = Bench.file(head(3, 2, 1, 8, 32), 7, 8);
         Story plainBehind = x -> {
             open.tell(x);
@@ -240,7 +242,8 @@ public final class PacketFormatTest {
     @Holds("packets may go beyond a row's end, but one that has more pixels than are missing is BROKEN (looked at when p "
             + "was read).")
     static void packetsTooLong() {
-        dueRead("the same beyond a row's end", Bench.file(head(11, 2, 2, 8, 0), 0, 9, 130, 5), 2, 2, Bench.greys(5, 5, 9, 5));
+        dueRead("the same beyond a row's end", Bench.file(head(11, 2, 2, 8, 0), 0, 9, 130, 5), 2, 2,
+                Bench.greys(5, 5, 9, 5));
         dueRead("others beyond a row's end", Bench.file(head(11, 2, 2, 8, 48), 128, 9, 2, 5, 6, 7), 2, 2,
                 Bench.greys(5, 9, 7, 6));
         for (int missing = 1; missing <= 8; missing++) {
@@ -277,7 +280,8 @@ public final class PacketFormatTest {
             dueRead("packets", Bench.file(head(10, 2, 1, 24, 32), 129, 1, 2, 3, more), 2, 1, A, A);
             dueRead("packets of others", Bench.file(head(11, 2, 1, 8, 32), 1, 1, 2, more), 2, 1, Bench.greys(1, 2));
         }
-        dueRead("800 bytes", Bench.longFile(Bench.file(head(3, 1, 1, 8, 32), 7), 800, Bench.row(1)), 1, 1, Bench.grey(7));
+        dueRead("800 bytes", Bench.longFile(Bench.file(head(3, 1, 1, 8, 32), 7), 800, Bench.row(1)), 1, 1,
+                Bench.grey(7));
     }
 
     @Holds("WRITING: byte 0 is 0; byte 2 is, for how = 0, 3 for a grey picture and 2 for others, for how = 1, 11 and 10;")
@@ -301,18 +305,22 @@ public final class PacketFormatTest {
         int[] nearlyGrey = {Bench.rgb(6, 5, 5), Bench.rgb(5, 6, 5), Bench.rgb(5, 5, 6)};
         for (int pixel : nearlyGrey) {
             int[] bytes = {pixel >>> 8 & 255, pixel >>> 16 & 255, pixel >>> 24};
-            Bench.dueWritten("nearly grey", Bench.drawn(1, 1, pixel), 3, 0, Bench.file(writtenHead(2, 1, 1, 24, 32), bytes));
+            Bench.dueWritten("nearly grey", Bench.drawn(1, 1, pixel), 3, 0,
+                    Bench.file(writtenHead(2, 1, 1, 24, 32), bytes));
         }
         int[] alphas = {0, 1, 254};
         for (int alpha : alphas) {
-            Bench.dueWritten("grey, but alpha " + alpha, Bench.drawn(2, 1, Bench.grey(4), Bench.rgba(5, 5, 5, alpha)), 3, 0,
+            Bench.dueWritten("grey, but alpha " + alpha,
+                    Bench.drawn(2, 1, Bench.grey(4), Bench.rgba(5, 5, 5, alpha)), 3, 0,
                     Bench.file(writtenHead(2, 2, 1, 32, 40), 4, 4, 4, 255, 5, 5, 5, alpha));
             Bench.dueWritten("packets, alpha " + alpha, Bench.drawn(1, 1, Bench.rgba(5, 6, 7, alpha)), 3, 1,
                     Bench.file(writtenHead(10, 1, 1, 32, 40), 0, 7, 6, 5, alpha));
         }
         for (int side = 1; side <= 8; side++) {
-            Bench.dueWritten("width " + side, Bench.drawn(side, 1), 3, 0, Bench.file(writtenHead(3, side, 1, 8, 32), new int[side]));
-            Bench.dueWritten("height " + side, Bench.drawn(1, side), 3, 0, Bench.file(writtenHead(3, 1, side, 8, 32), new int[side]));
+            Bench.dueWritten("width " + side, Bench.drawn(side, 1), 3, 0,
+                    Bench.file(writtenHead(3, side, 1, 8, 32), new int[side]));
+            Bench.dueWritten("height " + side, Bench.drawn(1, side), 3, 0,
+                    Bench.file(writtenHead(3, 1, side, 8, 32), new int[side]));
         }
     }
 

@@ -185,7 +185,8 @@ public final class PictureTest {
     static void pictureOrder() {
         int[] head = Bench.file("qoif", 0, 0, 0, 3, 0, 0, 0, 2, 3, 0);
         int[] chunks = {127, 127, 127, 127, 127, 127};
-        Bench.dueRead("each pixel one more", Bench.file(head, chunks, new int[7], 1), 0, 3, 2, Bench.greys(1, 2, 3, 4, 5, 6));
+        Bench.dueRead("each pixel one more", Bench.file(head, chunks, new int[7], 1), 0, 3, 2,
+                Bench.greys(1, 2, 3, 4, 5, 6));
     }
 
     @Holds("A picture is OPAQUE when all A are 255, and GREY when moreover R = G = B in all pixels.")
@@ -248,7 +249,8 @@ public final class PictureTest {
                     default -> pixels[x * height + y] = pixel;
                 }
             }
-            Story story = Bench.drawn(width, height, numbered(width, height)).and(x -> x.feed(5)).and(x -> x.change(how));
+            Story story = Bench.drawn(width, height, numbered(width, height)).and(x -> x.feed(5))
+                    .and(x -> x.change(how));
             Bench.dueState("change(" + how + ") of " + width + " by " + height, story, how == 2 ? height : width,
                     how == 2 ? width : height, pixels, new int[] {5});
         }

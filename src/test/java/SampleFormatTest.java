@@ -1,3 +1,5 @@
+import java.util.Arrays;
+
 /** Format 1, read and written. */
 public final class SampleFormatTest {
     private static final int[] GREY_ROW = Bench.greys(97, 98);
@@ -65,7 +67,8 @@ public final class SampleFormatTest {
             if (isSpace(b)) {
                 dueGreyRow("P5 with " + b, "P5 2 1 255", b, "ab");
                 Bench.dueRead("P6 with " + b, Bench.file("P6 1 1 255", b, "abc"), 1, 1, 1, Bench.rgb(97, 98, 99));
-                Bench.dueRead("a second one is a sample", Bench.file("P5 2 1 255", b, b, "a"), 1, 2, 1, Bench.greys(b, 97));
+                Bench.dueRead("a second one is a sample", Bench.file("P5 2 1 255", b, b, "a"), 1, 2, 1,
+                        Bench.greys(b, 97));
             } else if (!isDigit(b)) {
                 dueBroken("P5 with " + b, "P5 2 1 255", b, "ab");
                 dueBroken("P5 with " + b + ", then nothing", "P5 2 1 255", b);
@@ -148,7 +151,8 @@ public final class SampleFormatTest {
         Bench.dueRead("P2", Bench.file("P2 1 2 255 1 2"), 1, 1, 2, Bench.greys(1, 2));
         Bench.dueRead("P5", Bench.file("P5 1 2 255 ", 1, 2), 1, 1, 2, Bench.greys(1, 2));
         Bench.dueRead("P3", Bench.file("P3 1 2 255 1 2 3 4 5 6"), 1, 1, 2, Bench.rgb(1, 2, 3), Bench.rgb(4, 5, 6));
-        Bench.dueRead("P6", Bench.file("P6 1 2 255 ", 1, 2, 3, 4, 5, 6), 1, 1, 2, Bench.rgb(1, 2, 3), Bench.rgb(4, 5, 6));
+        Bench.dueRead("P6", Bench.file("P6 1 2 255 ", 1, 2, 3, 4, 5, 6), 1, 1, 2, Bench.rgb(1, 2, 3),
+                Bench.rgb(4, 5, 6));
         Bench.dueRead("picture order", Bench.file("P5 2 2 255 ", 1, 2, 3, 4), 1, 2, 2, Bench.greys(1, 2, 3, 4));
         dueBroken("P5 with three a pixel", "P5 1 1 255 ", 1, 2, 3);
         dueShort("P6 with one a pixel", "P6 1 1 255 ", 1);
@@ -209,7 +213,8 @@ public final class SampleFormatTest {
         dueBroken("six digits", "P2 000002 1 255 97 98");
         dueShort("four digits, then nothing", "P2 0002");
         dueBroken("9999", "P2 1 1 255 9999");
-        Bench.dueRead("no digits belong together over a comment", Bench.file("P2 1 2 255 9#\n8"), 1, 1, 2, Bench.greys(9, 8));
+        Bench.dueRead("no digits belong together over a comment", Bench.file("P2 1 2 255 9#\n8"), 1, 1, 2,
+                Bench.greys(9, 8));
     }
 
     @Holds("(A number ends where no digit stands, also at the end of the file; a comment that does not end makes it SHORT.)")
@@ -252,7 +257,8 @@ public final class SampleFormatTest {
             int[] samples = Bench.with(Bench.filled(3, 96), k, 97);
             dueBroken("P6, above in " + k, "P6 1 1 96 ", samples);
             dueBroken("P3, above in " + k, "P3 1 1 96 " + samples[0] + " " + samples[1] + " " + samples[2]);
-            Bench.dueBrokenAtLast("P6, above, then nothing", Bench.file("P6 1 1 96 ", java.util.Arrays.copyOf(samples, k + 1)));
+            Bench.dueBrokenAtLast("P6, above, then nothing",
+                    Bench.file("P6 1 1 96 ", Arrays.copyOf(samples, k + 1)));
         }
         Bench.dueRead("P6, none above", Bench.file("P6 1 1 96 ```"), 1, 1, 1, Bench.grey(255));
         dueBroken("the last sample above", "P2 2 1 100 100 101");
